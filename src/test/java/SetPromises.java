@@ -587,7 +587,76 @@ public final class SetPromises {
         due("200 by 1", x.share(), 200000);
     }
 
+    /** 200 objects: blocks of a LEVEL 0, a LEVEL 1 and a ROOT, 66 times, and two ROOTS alone. */
+    private static JoinBlocks fullRow() {
+        JoinBlocks x = new JoinBlocks();
+        for (int i = 0; i < 66; i++) {
+            x.child(0, i, 1, 67);
+            x.child(1, -i, 2, i);
+            x.close(i, 0, 4, -1);
+        }
+        x.close(66, 0, 8, 66);
+        x.close(67, 1000, 8, 0);
+        return x;
+    }
+
+    private static void allCallsOnAFullRow() {
+        JoinBlocks x = fullRow();
+        promise = "10 find";
+        due("no room", x.close(68, 0, 0, -1), -4);
+        due("all", x.find(0, 0, 0), 200);
+        due("tag 8", x.find(1, 8, 0), 2);
+        dueSet(x, "tag 8", 198, 1, 199, 1);
+        promise = "11 join";
+        due("without", x.join(2), 198);
+        promise = "12 up";
+        due("up", x.up(2, 3), 66);
+        due("score", x.score(197), 2);
+        promise = "19 family";
+        dueFamily(x, 197, 195, 196);
+        dueFamily(x, 199);
+        promise = "13 down";
+        due("down", x.down(1), 66);
+        due("score", x.score(196), 2);
+        promise = "14 over";
+        x.find(3, 2, 0);
+        due("over", x.over(), 134);
+        x.find(4, 67, 0);
+        due("over the last", x.over(), 66);
+        x.find(4, 66, 0);
+        due("over to itself", x.over(), 1);
+        dueSet(x, "over to itself", 198, 1);
+        promise = "17 hit";
+        x.find(2, -1000, 1000);
+        due("the first", x.hit(0), 199);
+        due("the last", x.hit(199), 196);
+        due("behind it", x.hit(200), -1);
+        promise = "20 share";
+        due("200 by 1", x.share(), 200000);
+        promise = "5 kill";
+        due("the last", x.kill(67), 1);
+        due("count(1)", x.count(1), 199);
+    }
+
+    private static void whatMergeLeftBehindIsGone() {
+        promise = "14 over";
+        JoinBlocks x = threeBlocks();
+        x.kill(10);
+        x.merge();
+        x.find(4, 30, 0);
+        due("over", x.over(), 1);
+        dueSet(x, "over", 2, 1);
+        x.close(999, 0, 0, -1);
+        x.find(4, 999, 0);
+        due("over the new one", x.over(), 1);
+        promise = "8 count";
+        due("living ROOTS", x.count(2), 3);
+        due("living ones", x.count(1), 7);
+    }
+
     public static void main(String[] args) {
+        allCallsOnAFullRow();
+        whatMergeLeftBehindIsGone();
         findKinds();
         findMoreKinds();
         findLiving();
