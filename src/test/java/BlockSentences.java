@@ -220,6 +220,7 @@ public final class BlockSentences {
         Check.refused("what stands for no KEY in answers", Scenes::busy, x -> x.kill(-3), -1);
         Check.outside(Scenes::busy, (x, key) -> x.kill(key), 0, 999, -1);
         Check.refused("of no objects", Scenes::empty, x -> x.kill(0), -1);
+        Check.refused("of 200 objects", () -> Scenes.roots(200), x -> x.kill(200), -1);
     }
 
     @Sentence(promise = 6, says = "Dead objects go, the others get numbers anew, in the same row: how many there are")
@@ -283,6 +284,27 @@ public final class BlockSentences {
     }
 
     @Sentence(promise = 6, says = "Dead objects go")
+    private static void promise6NothingIsLeftBehindTheRow() {
+        JoinBlocks x = Scenes.roots(4);
+        x.kill(0);
+        x.kill(1);
+        Check.due("two are left", x.merge(), 2);
+        Check.due("the first that is left", x.root(2), 0);
+        Check.due("the last that is left", x.root(3), 1);
+        x.kill(2);
+        x.kill(3);
+        for (int key = 0; key < 4; key++) {
+            Check.due("root(" + key + ")", x.root(key), -1);
+            Check.due("kill(" + key + ")", x.kill(key), -1);
+            Check.due("find(4, " + key + ", 0)", x.find(4, key, 0), 0);
+        }
+        Check.dueCounts(x, 2, 0, 0, 0, 4);
+        Check.due("behind the last", x.object(2, 0), -1);
+        Check.due("all that live", x.find(0, 0, 0), 0);
+        Check.due("the next one", x.close(2, 0, 0, -1), 2);
+    }
+
+    @Sentence(promise = 6, says = "Dead objects go")
     private static void promise6TheSetsGoToo() {
         JoinBlocks x = Scenes.busy();
         Check.due("one BLOCK is dead", x.merge(), 11);
@@ -290,7 +312,8 @@ public final class BlockSentences {
         Check.due("THE FAMILY is gone", x.family(4, -1), -1);
     }
 
-    @Sentence(promise = 7, says = "0 LEVEL, 1 VALUE, 2 TAGS, 3 LINK (-1), 4 KEY (-3: no ROOT), 5 its PARENT (-3: a ROOT), 6 whether it lives (1, 0), 7 how many are BELOW it")
+    @Sentence(promise = 7, says = "0 LEVEL, 1 VALUE, 2 TAGS, 3 LINK (-1), 4 KEY (-3: no ROOT), "
+            + "5 its PARENT (-3: a ROOT), 6 whether it lives (1, 0), 7 how many are BELOW it")
     private static void promise7WhatIsTold() {
         int[][] all = {
             {0, 5, 1, 20, -3, 2, 1, 0},
@@ -354,7 +377,8 @@ public final class BlockSentences {
         Check.due("the greatest", x.object(6, 1), 1000);
     }
 
-    @Sentence(promise = 8, says = "How many objects (what = 0), of these living (1), living ROOTS (2), open ones (3), SETS on THE STACK (4)")
+    @Sentence(promise = 8, says = "How many objects (what = 0), of these living (1), living ROOTS (2), "
+            + "open ones (3), SETS on THE STACK (4)")
     private static void promise8HowMany() {
         Check.dueCounts(Scenes.empty(), 0, 0, 0, 0, 0);
         Check.dueCounts(Scenes.blocks(), 11, 11, 3, 0, 0);
@@ -395,6 +419,7 @@ public final class BlockSentences {
         Check.refused("what stands for no KEY in answers", Scenes::busy, x -> x.root(-3), -1);
         Check.outside(Scenes::busy, (x, key) -> x.root(key), 0, 999, -1);
         Check.refused("of no objects", Scenes::empty, x -> x.root(0), -1);
+        Check.refused("of 200 objects", () -> Scenes.roots(200), x -> x.root(200), -1);
     }
 
     public static void main(String[] args) {

@@ -147,7 +147,8 @@ public final class TermSentences {
         Check.dueCounts(x, 6, 5, 2, 0, 0);
     }
 
-    @Sentence(promise = 0, says = "A KEY is that of one living ROOT at most: a BLOCK that is closed kills the one that has its KEY")
+    @Sentence(promise = 0, says = "A KEY is that of one living ROOT at most: "
+            + "a BLOCK that is closed kills the one that has its KEY")
     private static void oneLivingRootOfAKey() {
         JoinBlocks x = Scenes.blocks();
         Scenes.openOnes(x, 2);
@@ -517,7 +518,8 @@ public final class TermSentences {
         Check.due("of like ones", ledUp(1, 5, 5), 6);
         Check.due("the last", ledUp(1, 1, 2, 3), 4);
         Check.due("the first", ledUp(1, 3, 2, 1), 4);
-        Check.due("far ones", farOnes(1), 1L << 62);
+        Check.due("far ones, the greater ahead", farOnes(1, 1, -1), 1L << 62);
+        Check.due("far ones, the lesser ahead", farOnes(1, -1, 1), 1L << 62);
     }
 
     @Sentence(promise = 0, says = "2 the least")
@@ -527,14 +529,15 @@ public final class TermSentences {
         Check.due("of like ones", ledUp(2, 5, 5), 6);
         Check.due("the last", ledUp(2, 3, 2, 1), 2);
         Check.due("the first", ledUp(2, 1, 2, 3), 2);
-        Check.due("far ones", farOnes(2), -(1L << 62));
+        Check.due("far ones, the greater ahead", farOnes(2, 1, -1), -(1L << 62));
+        Check.due("far ones, the lesser ahead", farOnes(2, -1, 1), -(1L << 62));
     }
 
     /** 2 to the 62nd and the same below 0, whose difference wraps, led up by a RULE. */
-    private static long farOnes(int rule) {
+    private static long farOnes(int rule, int first, int second) {
         JoinBlocks x = new JoinBlocks();
-        x.child(0, -1, 0, -1);
-        x.child(0, 1, 0, -1);
+        x.child(0, first, 0, -1);
+        x.child(0, second, 0, -1);
         x.close(1, 5, 0, -1);
         x.find(2, -1, 1);
         Scenes.doubleScores(x, 62);
@@ -553,6 +556,10 @@ public final class TermSentences {
         x.join(1);
         x.up(2, 3);
         Check.dueSet(x, "sixty with the SCORE 0", 60, 60);
+        x = Scenes.blocks();
+        x.find(2, 4, 5);
+        x.up(2, 3);
+        Check.dueSet(x, "two of the four BELOW it", 4, 2);
     }
 
     @Sentence(promise = 0, says = "4 the mean, cut toward 0")
@@ -573,6 +580,10 @@ public final class TermSentences {
         Scenes.doubleScores(x, 62);
         x.up(2, 4);
         Check.dueSet(x, "of a sum that wraps", 2, Long.MIN_VALUE / 2);
+        x = Scenes.blocks();
+        x.find(2, 4, 5);
+        x.up(2, 4);
+        Check.dueSet(x, "of two of the four BELOW it", 4, 4);
     }
 
     @Sentence(promise = 0, says = "DOWN to a LEVEL (0, 1): living objects of this LEVEL that are BELOW one of the SET")
@@ -641,6 +652,12 @@ public final class TermSentences {
         x.find(3, 2, 0);
         x.over();
         Check.dueSet(x, "living ones", 2, 0, 4, 0, 10, 0, 12, 0);
+        x = new JoinBlocks();
+        x.close(0, 5, 0, 1);
+        x.close(1, 6, 0, 0);
+        x.find(2, -1000, 1000);
+        x.over();
+        Check.dueSet(x, "the first object and the last as ROOTS", 0, 6, 1, 5);
     }
 
     @Sentence(promise = 0, says = "All take their SETS from THE STACK and lay theirs")
@@ -688,7 +705,8 @@ public final class TermSentences {
         }
     }
 
-    @Sentence(promise = 0, says = "HITS of the last SET are by SCORES, the greatest first, of like ones the lesser number")
+    @Sentence(promise = 0, says = "HITS of the last SET are by SCORES, the greatest first, "
+            + "of like ones the lesser number")
     private static void hits() {
         JoinBlocks x = Scenes.blocks();
         x.find(2, -1000, 1000);
@@ -729,7 +747,8 @@ public final class TermSentences {
         Check.dueSet(x, "two of the least SCORE", 0, Long.MIN_VALUE, 1, Long.MIN_VALUE);
     }
 
-    @Sentence(promise = 0, says = "THE FAMILY of an object: what was BELOW it of the SET from which the latest UP went, as HITS are")
+    @Sentence(promise = 0, says = "THE FAMILY of an object: what was BELOW it of the SET "
+            + "from which the latest UP went, as HITS are")
     private static void family() {
         JoinBlocks x = Scenes.blocks();
         x.find(2, -1000, 1000);
@@ -802,7 +821,39 @@ public final class TermSentences {
         Check.due("after an UP anew", x.family(4, -1), 4);
     }
 
-    @Sentence(promise = 0, says = "of several the first one here: -1 there is no such object, key, place, -2 outside its bounds, -3 as told, -4 no room")
+    @Sentence(promise = 0, says = "REFUSALS change nothing")
+    private static void refusalsChangeNothing() {
+        Check.refused("child, -2", Scenes::fullRow, x -> x.child(-1, 1, 1, 1), -2);
+        Check.refused("child, -4", Scenes::fullOpenBlock, x -> x.child(0, 1, 1, 1), -4);
+        Check.refused("close, -2", Scenes::fullOpenBlock, x -> x.close(-1, 1, 1, 1), -2);
+        Check.refused("close, -4", Scenes::fullRow, x -> x.close(12, 1, 1, 1), -4);
+        Check.refused("kill, -1", Scenes::fullRow, x -> x.kill(13), -1);
+        Check.refused("object, -1", Scenes::fullRow, x -> x.object(200, 0), -1);
+        Check.refused("object, -2", Scenes::fullRow, x -> x.object(199, 8), -2);
+        Check.refused("object, -3", Scenes::fullRow, x -> x.object(199, 5), -3);
+        Check.refused("count, -2", Scenes::fullRow, x -> x.count(5), -2);
+        Check.refused("root, -1", Scenes::fullRow, x -> x.root(13), -1);
+        Check.refused("find, -2", Scenes::fullRow, x -> x.find(3, 3, 0), -2);
+        Check.refused("find, -4", Scenes::fullStack, x -> x.find(3, 2, 0), -4);
+        Check.refused("join, -2", Scenes::fullRow, x -> x.join(3), -2);
+        Check.refused("join, -3", Scenes::blocks, x -> x.join(2), -3);
+        Check.refused("up, -2", Scenes::fullRow, x -> x.up(2, 5), -2);
+        Check.refused("up, -3", Scenes::blocks, x -> x.up(2, 4), -3);
+        Check.refused("down, -2", Scenes::fullRow, x -> x.down(2), -2);
+        Check.refused("down, -3", Scenes::blocks, x -> x.down(1), -3);
+        Check.refused("over, -3", Scenes::blocks, x -> x.over(), -3);
+        Check.refused("again, -3", Scenes::blocks, x -> x.again(), -3);
+        Check.refused("again, -4", Scenes::fullStack, x -> x.again(), -4);
+        Check.refused("pop, -3", Scenes::blocks, x -> x.pop(), -3);
+        Check.refused("hit, -3", Scenes::blocks, x -> x.hit(0), -3);
+        Check.refused("hit, -1", Scenes::fullRow, x -> x.hit(200), -1);
+        Check.refused("score", Scenes::fullRow, x -> x.score(200), NOTHING);
+        Check.refused("family, -1", Scenes::fullRow, x -> x.family(200, -1), -1);
+        Check.refused("share", Scenes::blocks, Check::share, NOTHING);
+    }
+
+    @Sentence(promise = 0, says = "of several the first one here: -1 there is no such object, key, place, "
+            + "-2 outside its bounds, -3 as told, -4 no room")
     private static void orderOfRefusals() {
         Check.refused("object: -1 ahead of -2", Scenes::busy, x -> x.object(13, 8), -1);
         Check.refused("child: -2 ahead of -4", Scenes::fullOpenBlock, x -> x.child(2, 0, 0, -1), -2);

@@ -4,7 +4,7 @@ import java.util.function.Consumer;
 import java.util.function.Supplier;
 import java.util.function.ToLongFunction;
 
-/** All that an object tells of its state. Every part is asked of a copy, as no object is used for more than 512 calls. */
+/** All that an object tells of its state, asked of several copies: none is used for more than 512 calls. */
 public final class State {
     private static final int QUESTIONS_PER_COPY = 50;
 
