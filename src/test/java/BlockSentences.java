@@ -35,6 +35,14 @@ public final class BlockSentences {
         Check.dueCounts(other, 13, 11, 3, 2, 8);
     }
 
+    @Sentence(promise = 1, says = "No objects, nothing open, no SETS")
+    private static void promise1NoObjectIsChangedByAnother() {
+        Check.unchanged("another one made", Scenes::busy, x -> new JoinBlocks().count(0));
+        Check.unchanged("another one with blocks, SETS and a FAMILY", Scenes::busy, x -> Scenes.fullRow().count(0));
+        Check.unchanged("another one with more SETS", Scenes::busy, x -> Scenes.fullStack().drop());
+        Check.unchanged("another one without its dead", Scenes::busy, x -> Scenes.fullRow().merge());
+    }
+
     @Sentence(promise = 2, says = "An object more of THE OPEN BLOCK: how many it has")
     private static void promise2HowManyItHas() {
         JoinBlocks x = new JoinBlocks();

@@ -1,3 +1,5 @@
+import java.util.function.ToLongFunction;
+
 /** The sentences of promises 10 to 20 that name a boundary case. */
 public final class SetSentences {
     private static final long NOTHING = JoinBlocks.NOTHING;
@@ -509,9 +511,25 @@ public final class SetSentences {
         JoinBlocks x = Scenes.blocks();
         x.up(2, 0);
         Check.due("after an UP that was refused", x.family(4, -1), -1);
+        withoutUp("find", y -> y.find(0, 0, 0));
+        withoutUp("join", y -> y.join(1));
+        withoutUp("down", y -> y.down(0));
+        withoutUp("over", y -> y.over());
+        withoutUp("again", y -> y.again());
+        withoutUp("pop", y -> y.pop());
+        withoutUp("hit", y -> y.hit(0));
+        withoutUp("share", Check::share);
+        withoutUp("close", y -> y.close(50, 0, 0, -1));
         x = Scenes.busy();
         x.merge();
         Check.due("after merge()", x.family(4, -1), -1);
+    }
+
+    private static void withoutUp(String what, ToLongFunction<JoinBlocks> call) {
+        JoinBlocks x = oneSet();
+        x.again();
+        call.applyAsLong(x);
+        Check.due(what + " is no UP", x.family(4, -1), -1);
     }
 
     private static JoinBlocks twoSets(int before, int last) {

@@ -560,6 +560,17 @@ public final class TermSentences {
         x.find(2, 4, 5);
         x.up(2, 3);
         Check.dueSet(x, "two of the four BELOW it", 4, 2);
+        x = new JoinBlocks();
+        x.child(0, 1, 0, -1);
+        x.child(0, -1, 0, -1);
+        x.close(1, 5, 0, -1);
+        x.find(2, -1, 1);
+        Scenes.doubleScores(x, 63);
+        x.find(2, -1, -1);
+        x.join(1);
+        Check.dueSet(x, "the farthest SCORES", 1, Long.MAX_VALUE, 0, Long.MIN_VALUE);
+        x.up(2, 3);
+        Check.dueSet(x, "two of the farthest SCORES", 2, 2);
     }
 
     @Sentence(promise = 0, says = "4 the mean, cut toward 0")
